@@ -589,7 +589,7 @@ public final class FlintHeap {
 
         /** The other FACE of the JOIN in which a FACE is; NONE if it is in none. */
         int partner(int join, int face) {
-            if (!has(join)) {
+            if (join < 0 || join >= total) {
                 return NONE;
             }
             return first[join] == face ? second[join] : first[join];
@@ -995,10 +995,10 @@ public final class FlintHeap {
 
         private int plainWorth(int token, int worth, int[] worths) {
             if (token == NAME) {
-                return within(worth, 0, MOST_NAMES - 1) ? nameWorth[worth] : 0;
+                return worth >= 0 && worth < MOST_NAMES ? nameWorth[worth] : 0;
             }
             if (token == PART_WORD) {
-                return within(worth, 0, worths.length - 1) ? worths[worth] : 0;
+                return worth >= 0 && worth < worths.length ? worths[worth] : 0;
             }
             return worth;
         }
@@ -1054,10 +1054,12 @@ public final class FlintHeap {
         private static final int WRONG_NUMBER = 4;
         private static final int TOO_MANY = 5;
         private static final int DEEPEST = 5;
-        /** The tokens from LET on in their order, then the PART's words in theirs. */
-        private static final String WORDS =
-                "let bar doubt stone when and or not gap small great far layers burnt breaks colour grain spots fire size ";
-        private static final int FIRST_PART_WORD = NOT - LET + 1;
+        /** The tokens from LET on in their order. */
+        private static final String KEY_WORDS = "let bar doubt stone when and or not ";
+        /** In the order of what they are worth. */
+        private static final String PART_WORDS =
+                "gap small great far layers burnt breaks colour grain spots fire size ";
+        private static final int KEYS = NOT - LET + 1;
         private static final String SIGNS = "()<=+-*;";
 
         int length;
@@ -1068,9 +1070,31 @@ public final class FlintHeap {
         private int tokenAt;
         private int tokenEnd;
         private int tokenWorth;
-        /** The letters of the last WORD, 5 bits each: 8 of them tell it from all others. */
+        /** The letters of the last WORD, 5 bits each: they tell it from all others. */
         private long letters;
-        private final long[] nameLetters = new long[Rules.MOST_NAMES];
+        private final long[] keyWords = new long[KEYS];
+        private final long[] partWords = new long[Judge.PART_WORDS];
+        private final long[] names = new long[Rules.MOST_NAMES];
+
+        Reader() {
+            spell(KEY_WORDS, keyWords);
+            spell(PART_WORDS, partWords);
+        }
+
+        private static void spell(String words, long[] row) {
+            int word = 0;
+            for (int i = 0; i < words.length() && word < row.length; i++) {
+                if (words.charAt(i) == ' ') {
+                    word++;
+                } else {
+                    row[word] = withLetter(row[word], words.charAt(i));
+                }
+            }
+        }
+
+        private static long withLetter(long ahead, char letter) {
+            return ahead << 5 | letter - 'a' + 1;
+        }
 
         void take8(long bytes) {
             for (int k = 0; k < 8; k++) {
@@ -1142,7 +1166,7 @@ public final class FlintHeap {
                 return refuse(TOO_MANY);
             }
             // It is not found by this before its line has ended, when the rules have one NAME more.
-            nameLetters[rules.names] = letters;
+            names[rules.names] = letters;
             advance();
             return true;
         }
@@ -1219,13 +1243,17 @@ public final class FlintHeap {
                 return refuse(TOO_MANY);
             }
             advance();
-            if (kind == '(') {
-                return readChain(0, depth + 1) && accept(')');
-            }
-            if (kind == NOT && !readPart(depth + 1)) {
+            if (kind == NOT && !readPart(depth + 1) || kind == '(' && !readChain(0, depth + 1)) {
                 return false;
             }
-            rules.write(kind, worth);
+            if (kind != '(') {
+                rules.write(kind, worth);
+                return true;
+            }
+            if (token != ')') {
+                return refuse(CAN_NOT_STAND);
+            }
+            advance();
             return true;
         }
 
@@ -1280,45 +1308,24 @@ public final class FlintHeap {
             for (int at = tokenAt; at < tokenEnd; at++) {
                 letters = withLetter(letters, signs[at]);
             }
-            int word = wordNumber();
-            if (word == NONE) {
-                token = NAME;
-                tokenWorth = nameNumber();
-            } else if (word < FIRST_PART_WORD) {
-                token = LET + word;
-            } else {
+            int key = find(keyWords, KEYS);
+            int word = find(partWords, Judge.PART_WORDS);
+            if (key != NONE) {
+                token = LET + key;
+            } else if (word != NONE) {
                 token = PART_WORD;
-                tokenWorth = word - FIRST_PART_WORD;
+                tokenWorth = word;
+            } else {
+                token = NAME;
+                tokenWorth = find(names, rules.names);
             }
         }
 
-        private static long withLetter(long ahead, char letter) {
-            return ahead << 5 | letter - 'a' + 1;
-        }
-
-        /** Which of the WORDS the token is, or NONE. */
-        private int wordNumber() {
-            int number = 0;
-            long word = 0;
-            for (int i = 0; i < WORDS.length(); i++) {
-                if (WORDS.charAt(i) != ' ') {
-                    word = withLetter(word, WORDS.charAt(i));
-                    continue;
-                }
-                if (word == letters) {
-                    return number;
-                }
-                number++;
-                word = 0;
-            }
-            return NONE;
-        }
-
-        /** Which of the NAMES told ahead the token is, or NONE. */
-        private int nameNumber() {
-            for (int name = 0; name < rules.names; name++) {
-                if (nameLetters[name] == letters) {
-                    return name;
+        /** Which of so many words the last WORD is, or NONE. */
+        private int find(long[] words, int total) {
+            for (int word = 0; word < total && word < words.length; word++) {
+                if (words[word] == letters) {
+                    return word;
                 }
             }
             return NONE;
