@@ -205,6 +205,8 @@ public final class PromisesTest {
         Check.due("and, or from the left", worth("0 and 0 or 1"), 1);
         Check.due("and of numbers", worth("5 and 7"), 1);
         Check.due("or of numbers", worth("0 or 7"), 1);
+        Check.due("or of none", worth("0 or 0"), 99);
+        Check.due("< tells 1", worth("( 1 < 2 ) + 1"), 2);
         Check.due("* ahead of +", worth("2 + 0 * 5"), 2);
         Check.due("- from the left", worth("5 - 2 - 1"), 2);
         Check.due("+ ahead of <", worth("1 + 1 < 2"), 99);
@@ -273,6 +275,9 @@ public final class PromisesTest {
         fault("bar when let ;", 1, 9);
         fault("bar when - 1 ;", 1, 9);
         fault("bar when 1 b ;", 1, 11);
+        fault("bar when 1 + b ;", 2, 13);
+        fault("bar when 1 and 2 * b ;", 2, 19);
+        fault("bar when not b ;", 2, 13);
     }
 
     private static void textLimits() {
@@ -427,6 +432,8 @@ public final class PromisesTest {
         Check.due("NAMES by NAMES", h.meet(scar, belly, 3), 12);
         Check.read(h, "bar when 1 ; doubt 9 when 1 ;");
         Check.due("0 if they may not", h.meet(scar, belly, 3), 0);
+        Check.read(h, "let a=1;let b=a+1;let c=b+1;let d=c+1;let e=d+1;let f=e+1;let g=f+1;let h=g+1;doubt 5 when h=8;");
+        Check.due("the eighth NAME", h.meet(scar, belly, 3), 5);
         StringBuilder much = new StringBuilder();
         for (int i = 0; i < 24; i++) {
             much.append("doubt 99 when 1;");
@@ -550,6 +557,8 @@ public final class PromisesTest {
         Check.due("RIVALS in other JOINS, too", h.joined(0, 6), 4);
         h.near(0);
         Check.due("RIVALS now", h.joined(0, 6), 1);
+        h.near(20);
+        Check.due("the first FACE of all is a RIVAL", h.joined(1, 6), 4);
         FlintHeap s = struck(1);
         plain(s);
         flat(s, 2, BELLY, 0);
@@ -627,11 +636,23 @@ public final class PromisesTest {
         h.foot(100, 274, 16);
         Check.due("x 171", h.look(0, 6), 171);
         Check.due("not LEFT ALONE", h.look(0, 5), 0);
+        leftAloneAtTheEdge();
         FlintHeap edge = new FlintHeap();
         edge.piece(0, 10, 10, 990, 0);
         edge.foot(60, 940, 99);
         Check.due("not below 0", edge.look(0, 6), 0);
         Check.due("not above 999", edge.look(0, 7), 999);
+    }
+
+    private static void leftAloneAtTheEdge() {
+        // LOOSE is 20; the COST of the SEAT at 150, 150 is 0, 1 and 1.
+        int[][] places = {{170, 130, 1}, {171, 150, 0}, {150, 129, 0}, {129, 150, 0}, {150, 171, 0}};
+        for (int[] p : places) {
+            FlintHeap h = new FlintHeap();
+            h.piece(0, 40, p[0], p[1], 0);
+            Check.due("its SEAT", h.seat(0, 1, 1), 11);
+            Check.due("LEFT ALONE at " + p[0] + ", " + p[1], h.look(0, 5), p[2]);
+        }
     }
 
     private static void of() {
@@ -761,6 +782,8 @@ public final class PromisesTest {
         for (int what = 0; what < single.length; what++) {
             Check.due("a PIECE alone, " + what, h.cobble(alone, what), single[what]);
         }
+        openJoins();
+        quarrelsOfAll();
         // A ring of three BREAKS whose last TURN does not close.
         FlintHeap t = new FlintHeap();
         for (int i = 0; i < 3; i++) {
@@ -776,6 +799,63 @@ public final class PromisesTest {
         Check.due("one WHOLE", t.cobble(1, 1), 1);
         Check.due("which is found first", t.joined(1, 5), 1);
         Check.due("OPEN JOINS in all", t.count(3), 1);
+    }
+
+    private static void openJoins() {
+        // TURNS 0, 3, 3 by the JOINS 1 and 2; the JOIN 0 hangs on 1 and 2 alone and asks for 6.
+        FlintHeap h = new FlintHeap();
+        for (int i = 0; i < 3; i++) {
+            plain(h);
+        }
+        int[][] chain = {{1, 2, 5}, {0, 1, 3}, {0, 2, 3}};
+        for (int k = 0; k < 3; k++) {
+            int a = 8 * chain[k][0] + h.face(chain[k][0], BREAK, Check.rim(30 * k), 0);
+            int b = 8 * chain[k][1] + h.face(chain[k][1], BREAK, Check.rim(30 * k), chain[k][2]);
+            h.join(a, b);
+        }
+        Check.due("3 + 3 is not 5", h.joined(0, 5), 1);
+        Check.due("OPEN, the first JOIN of all", h.cobble(0, 3), 1);
+        Check.due("OPEN, the first JOIN of all", h.count(3), 1);
+        h.part(0);
+        Check.due("none is OPEN", h.count(3), 0);
+        h.join(8 + h.face(1, BREAK, Check.rim(90), 4), 16 + h.face(2, BREAK, Check.rim(90), 2));
+        Check.due("3 + 3 is 6: CLOSED", h.joined(3, 5), 0);
+    }
+
+    private static void quarrelsOfAll() {
+        // The core 1 is struck off 0, so all SCARS of 1 are ahead of it; the SCAR of 0 that it left is cut by others.
+        FlintHeap h = struck(1);
+        flat(h, 0, SCAR, 60);
+        flat(h, 1, SCAR, 61);
+        h.cuts(1, 0, 4);
+        orderIs(h, 0, 0, 109, 1, 101);
+        Check.due("no quarrel", h.cobble(0, 4), 0);
+        h.cuts(0, 1, 4);
+        orderIs(h, 0, 0, 101, 109, 1);
+        // Between the WHOLES 0 and 1 of a core 2 the CUTS of two PIECES add up.
+        FlintHeap two = new FlintHeap();
+        two.near(0);
+        for (int i = 0; i < 4; i++) {
+            plain(two);
+        }
+        two.join(flat(two, 2, SCAR, 10), flat(two, 0, BELLY, 10));
+        two.join(flat(two, 2, SCAR, 20), flat(two, 1, BELLY, 20));
+        two.cuts(16, 17, 7);
+        orderIs(two, 2, 1, 0, 2);
+        two.cuts(17, 16, 7);
+        orderIs(two, 2, 0, 1, 2);
+        two.join(flat(two, 2, BREAK, 30), flat(two, 3, BREAK, 30));
+        orderIs(two, 3, 0, 1, 2);
+        // A HOLE at the first FACE of all has the number 100.
+        FlintHeap first = new FlintHeap();
+        plain(first);
+        plain(first);
+        flat(first, 0, SCAR, 90);
+        first.join(flat(first, 0, BREAK, 5), flat(first, 1, BREAK, 5));
+        Check.due("the HOLE 100", first.cobble(1, 2), 1);
+        orderIs(first, 1, 0, 100);
+        first.join(0, flat(first, 1, BELLY, 90));
+        orderIs(first, 1, 0);
     }
 
     private static void cobbleRing() {
@@ -798,6 +878,15 @@ public final class PromisesTest {
         h.join(flat(h, 0, BREAK, 50), flat(h, 1, BREAK, 50));
         Check.due("one WHOLE is left out", h.cobble(1, 5), 0);
         Check.due("its QUARREL", h.cobble(1, 4), 0);
+        h.part(2);
+        for (int i = 0; i < 10; i++) {
+            Check.due("RING with " + i + " HOLES", h.cobble(0, 5), 1);
+            flat(h, i % 2, SCAR, 70);
+        }
+        Check.due("12 BLOWS", h.cobble(0, 1) + h.cobble(0, 2), 12);
+        Check.due("RING of 12", h.cobble(0, 5), 1);
+        h.part(0);
+        Check.due("no RING any more", h.cobble(0, 5), 0);
     }
 
     private static void cobbleChange() {
@@ -910,6 +999,10 @@ public final class PromisesTest {
         Check.due("its COST", between.seat(0, 1, 0), 38);
         Check.due("two equal ones: the least first", between.seat(0, 2, 1), 0);
         Check.due("two equal ones: the least second", between.seat(0, 2, 2), 44);
+        FlintHeap corner = new FlintHeap();
+        corner.piece(0, 200, 50, 50, 0);
+        Check.due("two SEATS are two cells", corner.seat(0, 2, 1), 0);
+        Check.due("two SEATS are two cells", corner.seat(0, 2, 2), 1);
     }
 
     private static void foot() {
@@ -919,7 +1012,7 @@ public final class PromisesTest {
             Check.due("a wrong FOOT", h.foot(w[0], w[1], w[2]), NONE);
         }
         for (int i = 1; i <= 20; i++) {
-            Check.due("a FOOT more", h.foot(999, 0, i == 1 ? 99 : 1), i);
+            Check.due("a FOOT more", h.foot(i % 2 * 999, (i + 1) % 2 * 999, i == 1 ? 99 : 1), i);
         }
         Check.due("a 21st", h.foot(0, 0, 1), NONE);
         // In order: the second FOOT is met only where the first one leaves the PIECE.
@@ -976,6 +1069,13 @@ public final class PromisesTest {
         Check.due("whichever is first", h.hands(2, 0), 1);
         h.marks(3, 0, 0, 0, false, 3);
         Check.due("5 and 3: 16 not above 128", h.hands(1, 3), 0);
+        h.marks(1, 0, 0, 0, false, 9);
+        // f 13, g 3: 400 above 256; f 13, g 4: 324 above 272; f 13, g 5: 256 not above 288.
+        Check.due("13 and 3", h.hands(1, 3), 1);
+        h.marks(2, 0, 0, 0, false, 1);
+        Check.due("13 and 4", h.hands(1, 3), 1);
+        h.marks(2, 0, 0, 0, false, 2);
+        Check.due("13 and 5", h.hands(1, 3), 0);
         Check.due("one WHOLE is too few", h.hands(0, 4), 0);
         h.marks(0, 0, 0, 0, false, 9);
         h.marks(1, 0, 0, 0, false, 9);
@@ -1010,6 +1110,10 @@ public final class PromisesTest {
         for (int what = 0; what < due.length; what++) {
             Check.due("count(" + what + ")", h.count(what), due[what]);
         }
+        h.part(2);
+        Check.due("a COBBLE of two PIECES", h.count(2), 1);
+        h.part(0);
+        Check.due("no COBBLE of two PIECES", h.count(2), 0);
         Check.due("count(-1)", h.count(-1), NONE);
         Check.due("count(10)", h.count(10), NONE);
     }
