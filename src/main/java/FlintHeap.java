@@ -387,6 +387,7 @@ public final class FlintHeap {
     private void regroup() {
         groups.regroup();
         blows.forget();
+        ground.forget();
     }
 
     private int rivals(int a, int b) {
@@ -1613,7 +1614,12 @@ public final class FlintHeap {
         private final int[] aboveX = new int[SIDE * MOST_PIECES];
         /** The same along y, by rows. */
         private final int[] aboveY = new int[SIDE * MOST_PIECES];
+        /** What the way of each PIECE to the first cell is above LOOSE. */
+        private final int[] aboveFirst = new int[MOST_PIECES];
         private int members;
+        /** The COBBLE whose SEATS are held, and how many; NONE: none. */
+        private int held = NONE;
+        private int heldSeats;
         int cost;
         int firstSeat;
         int secondSeat;
@@ -1636,16 +1642,25 @@ public final class FlintHeap {
             return feet;
         }
 
+        void forget() {
+            held = NONE;
+        }
+
         void findSeats(int cobble, int n) {
+            if (held == cobble && heldSeats == n) {
+                return;
+            }
+            held = cobble;
+            heldSeats = n;
             measure(cobble);
             cost = Integer.MAX_VALUE;
-            firstSeat = NONE;
-            secondSeat = NONE;
             for (int first = 0; first < CELLS; first++) {
-                if (n == 1) {
-                    tryOut(first, first);
+                for (int i = 0; i < members; i++) {
+                    aboveFirst[i] = above(first, i);
                 }
-                for (int second = first + 1; n == 2 && second < CELLS; second++) {
+                int from = n == 1 ? first : first + 1;
+                int to = n == 1 ? first + 1 : CELLS;
+                for (int second = from; second < to; second++) {
                     tryOut(first, second);
                 }
             }
@@ -1686,7 +1701,7 @@ public final class FlintHeap {
         private void tryOut(int first, int second) {
             int sum = 0;
             for (int i = 0; i < members && sum < cost; i++) {
-                sum += Math.min(above(first, i), above(second, i));
+                sum += aboveFirst[i] == 0 ? 0 : Math.min(aboveFirst[i], above(second, i));
             }
             if (sum < cost) {
                 cost = sum;
