@@ -3,17 +3,30 @@ import java.util.function.IntSupplier;
 
 /** What the project's tests tell: each answer that is not the one that is due, and the end. */
 final class Check {
+    /** What answer() tells of a call that threw a NoSuchElementException. */
+    static final int THROWN = Integer.MIN_VALUE;
+
     private static int wrong = 0;
     private static int asked = 0;
+    private static String under = "";
 
     private Check() {
+    }
+
+    /** What all answers from now on are told under. */
+    static void under(String label) {
+        under = label;
+    }
+
+    static int asked() {
+        return asked;
     }
 
     static void due(String what, long got, long want) {
         asked++;
         if (got != want) {
             wrong++;
-            System.out.println(what + " answered " + got + ", due is " + want);
+            System.out.println(under + what + " answered " + told(got) + ", due is " + told(want));
         }
     }
 
@@ -21,15 +34,20 @@ final class Check {
         due(what, got ? 1 : 0, want ? 1 : 0);
     }
 
-    static void throwsNoSuch(String what, IntSupplier call) {
-        asked++;
+    private static String told(long answer) {
+        return answer == THROWN ? "a NoSuchElementException" : Long.toString(answer);
+    }
+
+    static int answer(IntSupplier call) {
         try {
-            int got = call.getAsInt();
-            wrong++;
-            System.out.println(what + " answered " + got + ", due is a NoSuchElementException");
+            return call.getAsInt();
         } catch (NoSuchElementException e) {
-            // as due
+            return THROWN;
         }
+    }
+
+    static void throwsNoSuch(String what, IntSupplier call) {
+        due(what, answer(call), THROWN);
     }
 
     /** Feeds a whole text to the TAPE, 24 signs a call. */
