@@ -48,6 +48,8 @@ final class BoundsOfBlows extends Bounds {
             due("weight " + weight, h.cuts(0, 7, weight), true);
             due("CUTS told", h.count(8), 1);
         }
+        due("the last SCAR cuts the first, weight 1", h.cuts(7, 0, 1), true);
+        due("CUTS told", h.count(8), 1);
         for (int weight = 1; weight <= 9; weight++) {
             due("the LEAST QUARREL is the weight", round(weight).cobble(0, 4), weight);
         }
@@ -245,6 +247,8 @@ final class BoundsOfBlows extends Bounds {
 
     private static void leastQuarrels() {
         due("no CUTS", Made.struck(3).cobble(0, 4), 0);
+        lightestOfThree();
+        cobblesInTurn();
         due("the lightest of three", round(1).cobble(0, 4), 1);
         due("all alike", round(9).cobble(0, 4), 9);
         // The WHOLE 2 (of 2 and 3) was struck off 0 and off 1, so it came ahead of 1: CUTS can't change it.
@@ -273,6 +277,43 @@ final class BoundsOfBlows extends Bounds {
         due("one that does not", all.cobble(0, 4), 9);
     }
 
+    /** The core is the last PIECE, so that the BLOWS that quarrel are the first ones. */
+    private static void lightestOfThree() {
+        int[][] orders = {{0, 2, 1}, {1, 0, 2}, {2, 1, 0}};
+        for (int light = 0; light < 3; light++) {
+            FlintHeap h = Made.pieces(4);
+            h.near(0);
+            for (int i = 0; i < 3; i++) {
+                h.join(flat(h, 3, SCAR, 10 * i), flat(h, i, BELLY, 10 * i));
+            }
+            for (int i = 0; i < 3; i++) {
+                h.cuts(24 + i, 24 + (i + 1) % 3, i == light ? 2 : 5);
+            }
+            due("the lightest of three", h.cobble(3, 4), 2);
+            orderIs(h, 3, orders[light][0], orders[light][1], orders[light][2], 3);
+        }
+    }
+
+    /** A COBBLE with a quarrel, a PIECE alone, a RING: each is told as if it were the only one. */
+    private static void cobblesInTurn() {
+        FlintHeap h = round(7);
+        int alone = plain(h);
+        int ringFrom = plain(h);
+        plain(h);
+        for (int i = 0; i < 2; i++) {
+            h.join(flat(h, ringFrom + i, SCAR, 60 + i), flat(h, ringFrom + 1 - i, BELLY, 60 + i));
+        }
+        for (int i = 0; i < 2; i++) {
+            due("of the one with a quarrel", h.cobble(0, 4), 7);
+            due("of a PIECE alone", h.cobble(alone, 4), 0);
+            orderIs(h, alone, alone);
+            due("of the RING", h.cobble(ringFrom, 4), NONE);
+            due("of a PIECE alone", h.cobble(alone, 4), 0);
+            due("its RING", h.cobble(alone, 5), 0);
+            due("of the one with a quarrel", h.cobble(3, 4), 7);
+        }
+    }
+
     private static void sure() {
         // 0 has no BELLY in a JOIN: nothing is SURE of its SCARS. 1 has one: its SCARS come ahead of it.
         FlintHeap h = Made.struck(1);
@@ -285,6 +326,7 @@ final class BoundsOfBlows extends Bounds {
         int last = plain(h);
         int join = h.join(flat(h, last, SCAR, 70), 2);
         orderIs(h, 0, 2, 100 + hole, 100 + ahead, 1, 0);
+        due("no quarrel, though 0 can't be first", h.cobble(0, 4), 0);
         h.part(join);
         orderIs(h, 0, 0, 100 + hole, 100 + ahead, 1);
         // Of a WHOLE each PIECE's SCARS come ahead of it if one of its PIECES has a BELLY in a JOIN.
@@ -293,6 +335,11 @@ final class BoundsOfBlows extends Bounds {
         // Itself left out: 0 and 1 are one WHOLE, and the BELLY of 1 is JOINED to a SCAR of 0.
         h.join(flat(h, 0, BREAK, 50), flat(h, 1, BREAK, 50));
         orderIs(h, 0, 100 + hole, 100 + ahead, 116, 0);
+        // A BELLY that is the first FACE of all.
+        FlintHeap first = Made.pieces(2);
+        first.join(flat(first, 0, BELLY, 10), flat(first, 1, SCAR, 10));
+        flat(first, 0, SCAR, 90);
+        orderIs(first, 0, 1, 101, 0);
     }
 
     private static void rings() {
@@ -360,6 +407,17 @@ final class BoundsOfBlows extends Bounds {
         h.marks(3, 0, 0, 0, false, 9);
         // Of 9 0 9 9: 2 ahead is 18 * 18, not above 4 * 27 * 4.
         due("9, a HOLE, 0 9 9", h.cobble(0, 6), NONE);
+        FlintHeap hundred = Made.pieces(5);
+        hundred.near(0);
+        flat(hundred, 0, SCAR, 90);
+        for (int i = 1; i < 5; i++) {
+            hundred.join(flat(hundred, 0, SCAR, i), flat(hundred, i, BELLY, i));
+            hundred.cuts(i, 0, 1);
+        }
+        hundred.marks(0, 0, 0, 0, false, 9);
+        hundred.marks(1, 0, 0, 0, false, 9);
+        orderIs(hundred, 0, 0, 100, 1, 2, 3, 4);
+        due("the HOLE with the least number", hundred.cobble(0, 6), 2);
         FlintHeap three = withFaults(9, 9, 0);
         flat(three, 0, SCAR, 90);
         due("3 WHOLES and a HOLE", three.cobble(0, 6), NONE);
@@ -377,6 +435,17 @@ final class BoundsOfBlows extends Bounds {
         changeIs(3, 0, 0, 0, 0, 9);
         changeIs(7, 0, 0, 0, 0, 0, 0, 0, 9, 9);
         changeIs(2, 9, 9, 0, 0, 0, 0, 0, 0, 0);
+        // 12 BLOWS, the ORDER is 0 11 10 .. 1.
+        FlintHeap twelve = chain(12);
+        due("of 12 BLOWS without faults", twelve.cobble(0, 6), NONE);
+        twelve.marks(1, 0, 0, 0, false, 9);
+        twelve.marks(2, 0, 0, 0, false, 9);
+        due("of 12 BLOWS, the last place", twelve.cobble(0, 6), 10);
+        twelve.marks(1, 0, 0, 0, false, 0);
+        twelve.marks(2, 0, 0, 0, false, 0);
+        twelve.marks(0, 0, 0, 0, false, 9);
+        twelve.marks(11, 0, 0, 0, false, 9);
+        due("of 12 BLOWS, the first place", twelve.cobble(0, 6), 2);
     }
 
     private static void greatestChange() {

@@ -254,6 +254,20 @@ final class BoundsOfJoins extends Bounds {
                 due("OPEN JOINS of all", h.count(3), open ? 1 : 0);
             }
         }
+        firstJoinIsOpen();
+    }
+
+    /** The JOIN 0 hangs on 1 and 2 alone, which are found by the JOINS 1 and 2. */
+    private static void firstJoinIsOpen() {
+        for (int r = 0; r < 8; r++) {
+            FlintHeap h = Made.pieces(3);
+            joinWith(h, 1, 2, r);
+            joinWith(h, 0, 1, 3);
+            joinWith(h, 2, 0, 4);
+            due("the JOIN 0 of 3 + 4 - " + r, h.joined(0, 5), r == 7 ? 0 : 1);
+            due("OPEN JOINS of the COBBLE", h.cobble(2, 3), r == 7 ? 0 : 1);
+            due("OPEN JOINS of all", h.count(3), r == 7 ? 0 : 1);
+        }
     }
 
     private static void partedIsNotOpen() {
@@ -277,6 +291,9 @@ final class BoundsOfJoins extends Bounds {
         due("all but these two", full.joined(0, 6), 318);
         full.near(0);
         due("all but these two, GAP 0", full.joined(0, 6), 318);
+        FlintHeap first = Made.broken(3, 1);
+        first.join(8, 16);
+        due("the first FACE of all", first.joined(0, 6), 1);
         FlintHeap none = Made.struck(1);
         due("no other FACE", none.joined(0, 6), 0);
         flat(none, 0, SKIN, 0);

@@ -79,6 +79,25 @@ final class BoundsOfLooks extends Bounds {
         h.marks(0, 0, 0, 0, false, 0);
         read(h, "stone 1 when fire=0; stone 0 when 1;");
         due("fire of one that is not burnt", h.look(0, 0), 1);
+        ofOnePieceBehindAMeeting();
+    }
+
+    /** A meeting in which no word of one is 0 leaves nothing of it for a PIECE. */
+    private static void ofOnePieceBehindAMeeting() {
+        FlintHeap h = new FlintHeap();
+        h.piece(NONE, 200, 999, 999, 4);
+        h.piece(NONE, 100, 0, 0, 0);
+        flat(h, 0, BREAK, 10);
+        flat(h, 1, BREAK, 11);
+        h.marks(0, 99, 98, 9, true, 9);
+        String[] words = {"gap", "small", "great", "far", "layers", "burnt", "breaks"};
+        for (String word : words) {
+            read(h, "doubt 5 when " + word + ";");
+            due(word + " of the meeting is not 0", h.meet(0, 8, 3), 5);
+            read(h, "doubt 5 when 1; stone 1 when " + word + "=0; stone 0 when 1;");
+            due("DOUBT", h.meet(0, 8, 3), 5);
+            due(word + " of a PIECE", h.look(1, 0), 1);
+        }
     }
 
     private static void leastAndGreatestWhole() {
@@ -140,6 +159,14 @@ final class BoundsOfLooks extends Bounds {
         // Either cell has the COST 188, the one between 2 * 88 = 176.
         wentTo(both, 0, 150, 50);
         wentTo(both, 1, 150, 50);
+        FlintHeap apart = new FlintHeap();
+        apart.piece(0, 200, 150, 250, 0);
+        apart.piece(0, 200, 350, 450, 0);
+        due("x of 0", apart.look(0, 6), 150);
+        due("y of 1", apart.look(1, 7), 450);
+        due("x of 0, behind 1", apart.look(0, 6), 150);
+        due("x of 1", apart.look(1, 6), 350);
+        due("y of 0, behind 1", apart.look(0, 7), 250);
     }
 
     /** A PIECE of size 20 whose SEAT is at 450, 450: a FOOT moves it by its strength. */
@@ -283,6 +310,7 @@ final class BoundsOfLooks extends Bounds {
         flat(first, 0, SCAR, 50);
         first.join(flat(first, 0, BREAK, 5), flat(first, 1, BREAK, 5));
         due("the least number of a HOLE", first.of(0, 2), 100);
+        orderIs(first, 1, 0, 100);
         FlintHeap last = Made.broken(40, 7);
         int scar = flat(last, 39, SCAR, 50);
         last.join(8 * 39, 8 * 38);

@@ -21,6 +21,7 @@ final class BoundsOfMeetings extends Bounds {
         sentence(9, "what 0: GAP, 1: TURN, 2: 1 if they MAY MEET, else 0, 3: DOUBT (0 if they may not)",
                 BoundsOfMeetings::leastAndGreatestAnswers);
         sentence(9, "NoSuchElementException: none such, of one PIECE.", BoundsOfMeetings::noSuchMeeting);
+        sentence(9, "gap: theirs", BoundsOfMeetings::gapOfTheirs);
         sentence(9, "small: the size of the PIECE with the BELLY (of BREAKS the lesser size), great: that of the other one",
                 BoundsOfMeetings::smallAndGreat);
         sentence(9, "far: the greater of how far x and y of the PIECES are apart; layers: how far their layers are",
@@ -284,6 +285,19 @@ final class BoundsOfMeetings extends Bounds {
         int a = breaks ? 0 : 1;
         due(word + " is " + worth, h.meet(a, 8 + a, 3), 1);
         due(word + " is " + worth + " the other way", h.meet(8 + a, a, 3), 1);
+    }
+
+    private static void gapOfTheirs() {
+        for (int gap : new int[] {0, 1, 7, 20, 399, 400, 420}) {
+            FlintHeap h = burn(withGap(gap), 400, 3);
+            read(h, "doubt 1 when gap=" + gap + ";doubt 2 when gap<" + gap + ";");
+            due("gap is " + gap, h.meet(0, 8, 3), 1);
+            due("gap is " + gap + " the other way", h.meet(8, 0, 3), 1);
+            read(h, "bar when gap=" + gap + ";");
+            due("a bar line by gap " + gap, h.meet(0, 8, 2), 0);
+            read(h, "bar when gap<" + gap + " or " + gap + "<gap;");
+            due("a bar line by another gap", h.meet(0, 8, 2), 1);
+        }
     }
 
     private static void smallAndGreat() {

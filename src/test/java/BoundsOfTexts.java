@@ -110,6 +110,11 @@ final class BoundsOfTexts extends Bounds {
         due("a FAULT", read(h, "bar when"), 1 + 16 * 8);
         due("empty", h.count(6), 0);
         due("signs come from the first place on", read(h, "$"), 1);
+        read(h, "z".repeat(24));
+        due("a WORD ends where the TAPE ends", read(h, "bar"), 1 + 16 * 3);
+        read(h, "9".repeat(24));
+        due("a NUMBER ends where the TAPE ends", read(h, "doubt 99"), 1 + 16 * 8);
+        due("a WORD at the end of a full TAPE", read(h, " ".repeat(997) + "bar"), 1 + 16 * 1000);
         due("the empty TAPE is read", h.text(), 0);
         due("empty", h.count(6), 0);
     }
@@ -126,6 +131,20 @@ final class BoundsOfTexts extends Bounds {
         due("the empty one", h.text(), 0);
         due("lines", h.count(5), 0);
         due("NAMES", h.count(9), 0);
+        nothingIsLeft();
+    }
+
+    /** Short texts in place of the greatest ones. */
+    private static void nothingIsLeft() {
+        FlintHeap h = Made.broken(2, 1);
+        for (int i = 0; i < 3; i++) {
+            due("a long text", read(h, "bar when not not not not 1;".repeat(24)), 0);
+            due("it bars", h.meet(0, 8, 2), 0);
+        }
+        due("a short one", read(h, "bar when 1;"), 0);
+        due("it bars", h.meet(0, 8, 2), 0);
+        due("a short one", read(h, "bar when 0;"), 0);
+        due("it bars nothing", h.meet(0, 8, 2), 1);
     }
 
     /** The TAPE is empty then, but what is no TEXT takes no text's place. */
@@ -188,6 +207,7 @@ final class BoundsOfTexts extends Bounds {
         // Two WORDS that differ in the last letter, or in their length alone, are two.
         good("let abcdefgh=1;let abcdefgi=1;let bbcdefgh=1;let abcdefg=1;");
         good("let a=1;let aa=1;let aaa=1;let aaaaaaaa=1;");
+        good("let p=1;let ap=1;let ax=1;let ex=1;let b=1;let ba=1;");
     }
 
     private static void numbers() {
@@ -222,6 +242,10 @@ final class BoundsOfTexts extends Bounds {
         fault("bar when 1 123456789 ;", 1, 11);
         fault("bar when 12345a;", 1, 9);
         fault("bar when gap + aaaaaaaaa;", 1, 15);
+        fault("bar when (12345);", 1, 10);
+        fault("bar when (abcdefghi);", 1, 10);
+        fault("bar when not 12345;", 1, 13);
+        fault("bar when not abcdefghi;", 1, 13);
     }
 
     private static void lines() {
@@ -275,6 +299,8 @@ final class BoundsOfTexts extends Bounds {
         due("and, or from the left", worth("1 or 1 and 0"), 0);
         due("and, or from the left", worth("0 and 0 or 1"), 1);
         due("- from the left", worth("9 - 4 - 4"), 1);
+        due("* ahead of +", worth("1 + 0 * 9"), 1);
+        due("* ahead of -", worth("1 - 0 * 9"), 1);
         fault("bar when 1 and;", 1, 14);
         fault("bar when or 1;", 1, 9);
         fault("bar when 1+;", 1, 11);
