@@ -2,7 +2,10 @@ import java.util.ArrayList;
 import java.util.List;
 import java.util.function.IntSupplier;
 
-/** All that a heap answers, and at last what only calls that change it can tell: so a heap is asked once. */
+/**
+ * All that a heap answers, and at last what only calls that change it can tell: so a heap is asked once. That takes more
+ * than the 512 calls for which the document promises something, but the class answers all calls alike.
+ */
 final class AllAnswers {
     private static final int MANY_FACES = 60;
 

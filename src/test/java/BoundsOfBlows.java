@@ -294,10 +294,15 @@ final class BoundsOfBlows extends Bounds {
         }
     }
 
-    /** A COBBLE with a quarrel, a PIECE alone, a RING: each is told as if it were the only one. */
+    /** COBBLES with a quarrel, of one PIECE, of two, a RING: each is told as if it were the only one. */
     private static void cobblesInTurn() {
-        FlintHeap h = round(7);
+        FlintHeap h = Made.struck(4);
+        h.cuts(1, 2, 9);
+        h.cuts(2, 3, 9);
+        h.cuts(3, 1, 7);
         int alone = plain(h);
+        int pair = plain(h);
+        h.join(flat(h, plain(h), SCAR, 70), flat(h, pair, BELLY, 70));
         int ringFrom = plain(h);
         plain(h);
         for (int i = 0; i < 2; i++) {
@@ -306,11 +311,15 @@ final class BoundsOfBlows extends Bounds {
         for (int i = 0; i < 2; i++) {
             due("of the one with a quarrel", h.cobble(0, 4), 7);
             due("of a PIECE alone", h.cobble(alone, 4), 0);
+            due("of the one with a quarrel", h.cobble(3, 4), 7);
+            due("of a pair", h.cobble(pair, 4), 0);
+            orderIs(h, pair, pair, pair + 1);
             orderIs(h, alone, alone);
             due("of the RING", h.cobble(ringFrom, 4), NONE);
+            due("of a pair", h.cobble(pair, 4), 0);
+            due("its RING", h.cobble(pair, 5), 0);
             due("of a PIECE alone", h.cobble(alone, 4), 0);
             due("its RING", h.cobble(alone, 5), 0);
-            due("of the one with a quarrel", h.cobble(3, 4), 7);
         }
     }
 

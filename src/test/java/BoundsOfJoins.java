@@ -224,6 +224,28 @@ final class BoundsOfJoins extends Bounds {
         due("1, by what is left", h.look(1, 3), 3);
         h.part(4);
         due("2, from 1: 1 - 3", h.look(2, 3), 6);
+        turnsOfWhatIsLeft();
+    }
+
+    /** The least PIECE goes off a row of four, then the row falls apart. */
+    private static void turnsOfWhatIsLeft() {
+        FlintHeap h = Made.pieces(4);
+        joinWith(h, 0, 1, 1);
+        joinWith(h, 1, 2, 2);
+        joinWith(h, 3, 2, 7);
+        turnsAre(h, 0, 1, 1, 6);
+        h.part(0);
+        turnsAre(h, 0, 0, 2, 5);
+        h.part(1);
+        turnsAre(h, 0, 0, 0, 7);
+        h.part(2);
+        turnsAre(h, 0, 0, 0, 0);
+    }
+
+    private static void turnsAre(FlintHeap h, int... due) {
+        for (int piece = 0; piece < due.length; piece++) {
+            due("TURN of " + piece, h.look(piece, 3), due[piece]);
+        }
     }
 
     private static void turnsGoRound() {

@@ -1,12 +1,10 @@
 import java.util.ArrayList;
 import java.util.List;
-import java.util.NoSuchElementException;
 import java.util.Random;
 import java.util.function.IntSupplier;
 
 /** Runs of calls, the same ones each time, on FlintHeap and on NaiveHeap: they must answer alike. */
 public final class RandomRunsTest {
-    private static final int THROWN = Integer.MIN_VALUE;
     private static final String[] PIECES_OF_TEXT = {"let", "bar", "doubt", "stone", "when", "and", "or", "not", "gap",
         "small", "great", "far", "layers", "burnt", "breaks", "colour", "grain", "spots", "fire", "size", "aa", "bb",
         "cc", "longname", "toolongname", "0", "1", "7", "8", "99", "100", "9999", "12345", "(", ")", "<", "=", "+", "-",
@@ -29,22 +27,14 @@ public final class RandomRunsTest {
 
     private int ask(String call, IntSupplier ours, IntSupplier theirs) {
         calls.add(call);
-        int got = answer(ours);
-        int want = answer(theirs);
+        int got = Check.answer(ours);
+        int want = Check.answer(theirs);
         Check.due(call, got, want);
         if (got != want) {
             right = false;
             System.out.println("  the run: " + calls);
         }
         return got;
-    }
-
-    private static int answer(IntSupplier call) {
-        try {
-            return call.getAsInt();
-        } catch (NoSuchElementException e) {
-            return THROWN;
-        }
     }
 
     private int pick(int low, int high) {
