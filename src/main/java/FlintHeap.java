@@ -16,6 +16,8 @@ public final class FlintHeap {
     private static final int LAYERS = 5;
     private static final int MOST_TRIALS = 1000;
     private static final int FIRST_HOLE = 100;
+    /** Above every sum that can come up: of GAPS, of weights, of COSTS. */
+    private static final int ABOVE_ALL = 1000000;
 
     // Tokens of the text: a sign is its own character, so these keep clear of 40 to 61.
     private static final int END = 0;
@@ -515,7 +517,7 @@ public final class FlintHeap {
                 rimOfFirst[k] = byteOf(rim[f], k);
                 rimOfSecond[k] = byteOf(rim[g], k);
             }
-            int least = Integer.MAX_VALUE;
+            int least = ABOVE_ALL;
             for (int turn = 0; turn < EIGHT; turn++) {
                 int way = modEight(turn - ripple[f] - ripple[g]);
                 int sum = 5 * Math.min(way, EIGHT - way);
@@ -1336,8 +1338,8 @@ public final class FlintHeap {
     /** The BLOWS of COBBLES, and the ORDER of one COBBLE's, held until something changes. */
     private static final class Blows {
         private static final int MOST = 12;
-        /** Above all sums of weights: no order keeps what is SURE. */
-        private static final int NEVER = 1000000;
+        /** No order keeps what is SURE. */
+        private static final int NEVER = ABOVE_ALL;
 
         private final Pieces pieces;
         private final Faces faces;
@@ -1653,7 +1655,7 @@ public final class FlintHeap {
             held = cobble;
             heldSeats = n;
             measure(cobble);
-            cost = Integer.MAX_VALUE;
+            cost = ABOVE_ALL;
             for (int first = 0; first < CELLS; first++) {
                 for (int i = 0; i < members; i++) {
                     aboveFirst[i] = above(first, i);

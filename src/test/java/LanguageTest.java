@@ -116,7 +116,8 @@ public final class LanguageTest {
         }
         Matcher math = Pattern.compile("\\b(Math|Integer|Long|Arrays)\\.(\\w+)").matcher(source);
         while (math.find()) {
-            Check.due("use of " + math.group(), List.of("max", "min", "MAX_VALUE").contains(math.group(2)), true);
+            // Rule 4 lists "the static functions of Integer, Long and Math", so their constants are not in it.
+            Check.due("rule 4: use of " + math.group(), List.of("max", "min").contains(math.group(2)), true);
         }
         methodsStayShort(source);
     }

@@ -22,7 +22,7 @@ public final class RandomRunsTest {
     private RandomRunsTest(long seed) {
         random = new Random(seed * 7919);
         // Seeds near one another draw alike at first, so the profile is not drawn.
-        profile = (int) (seed % 4);
+        profile = (int) (seed % 5);
     }
 
     private int ask(String call, IntSupplier ours, IntSupplier theirs) {
@@ -79,18 +79,46 @@ public final class RandomRunsTest {
         if (profile != 1) {
             near(400);
         }
-        int startPieces = profile == 3 ? 30 : pick(2, 8);
+        int startPieces = profile == 4 ? 0 : profile == 3 ? 30 : pick(2, 8);
         for (int i = 0; i < startPieces; i++) {
             piece();
             for (int k = pick(0, 4); k < 5; k++) {
                 face();
             }
         }
+        if (profile == 4) {
+            strike(pick(3, 6));
+        }
         for (int i = 0; i < steps && right; i++) {
             step();
             if (i % 60 == 59) {
                 sweep();
             }
+        }
+    }
+
+    /** COBBLES of not too many BLOWS, with CUTS that quarrel, RINGS and CHANGES. */
+    private void strike(int total) {
+        for (int i = 0; i < total; i++) {
+            int size = pick(1, 60);
+            int piece = ask("piece(-1, " + size + ", 10, 10, 0)", () -> heap.piece(-1, size, 10, 10, 0),
+                    () -> naive.piece(-1, size, 10, 10, 0));
+            face(piece, 1);
+            for (int k = pick(1, 3); k > 0; k--) {
+                face(piece, random.nextInt(3) == 0 ? 3 : 0);
+            }
+            marks(piece, random.nextBoolean() ? 0 : 9);
+        }
+        for (int i = 0; i < 2 * total; i++) {
+            join();
+            cuts();
+            cuts();
+        }
+        for (int piece = 0; piece < total; piece++) {
+            for (int what = 0; what <= 7; what++) {
+                cobble(piece, what);
+            }
+            blow(piece, pick(0, 4));
         }
     }
 
@@ -156,20 +184,24 @@ public final class RandomRunsTest {
     }
 
     private void marks() {
-        int piece = aPiece();
+        marks(aPiece(), random.nextBoolean() ? 0 : about(0, 9));
+    }
+
+    private void marks(int piece, int faults) {
         int colour = about(0, 99);
         int grain = about(0, 99);
         int spots = about(0, 9);
         boolean burnt = random.nextInt(4) == 0;
-        int faults = random.nextBoolean() ? 0 : about(0, 9);
         ask("marks(" + piece + ", " + colour + ", " + grain + ", " + spots + ", " + burnt + ", " + faults + ")",
                 () -> heap.marks(piece, colour, grain, spots, burnt, faults) ? 1 : 0,
                 () -> naive.marks(piece, colour, grain, spots, burnt, faults) ? 1 : 0);
     }
 
     private void face() {
-        int piece = aPiece();
-        int sort = random.nextInt(10) < 5 ? 0 : about(0, 3);
+        face(aPiece(), random.nextInt(10) < 5 ? 0 : about(0, 3));
+    }
+
+    private void face(int piece, int sort) {
         long rim = 0;
         int top = profile == 1 ? 99 : 9;
         for (int k = 0; k < 8; k++) {
